@@ -6,6 +6,7 @@ final class Check {
 
     private static int checks = 0;
     private static int wrong = 0;
+    private static String about = "";
 
     private Check() {
     }
@@ -13,8 +14,13 @@ final class Check {
     private static void tell(String what) {
         wrong++;
         if (wrong <= 50) {
-            System.out.println(what);
+            System.out.println(about + what);
         }
+    }
+
+    /** What the checks from here on are about; it is told ahead of each wrong answer. */
+    static void about(String what) {
+        about = what + ": ";
     }
 
     static void same(String what, long got, long due) {

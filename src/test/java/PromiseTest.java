@@ -1,55 +1,5 @@
 /** The promises 1 to 29, one after the other, with answers worked out by hand from the document. */
-public final class PromiseTest {
-    private static final int NONE = StickPairs.NONE;
-
-    /** Plugs sticks of the sizes in, 0 for none, all with these ranks and this delay. */
-    private static StickPairs with(int ranks, int delay, int... sizes) {
-        StickPairs x = new StickPairs();
-        for (int slot = 0; slot < sizes.length; slot++) {
-            if (sizes[slot] > 0) {
-                x.plug(slot, sizes[slot], ranks, delay);
-            }
-        }
-        return x;
-    }
-
-    private static StickPairs started(int map, int ranks, int delay, int... sizes) {
-        StickPairs x = with(ranks, delay, sizes);
-        x.set(0, map);
-        x.start();
-        return x;
-    }
-
-    private static void type(StickPairs x, String codes) {
-        x.clearBuffer();
-        for (char c : codes.toCharArray()) {
-            x.append(c);
-        }
-    }
-
-    private static int run(StickPairs x, String codes) {
-        type(x, codes);
-        return x.run();
-    }
-
-    private static void counts(String what, StickPairs x, int... due) {
-        for (int i = 0; i < due.length; i++) {
-            Check.same(what + " count(" + i + ")", x.count(i), due[i]);
-        }
-    }
-
-    private static void numbers(String what, StickPairs x, int slot, int... due) {
-        for (int i = 0; i < due.length; i++) {
-            Check.same(what + " slot(" + slot + ", " + i + ")", x.slot(slot, i), due[i]);
-        }
-    }
-
-    private static void place(String what, StickPairs x, int block, int... due) {
-        for (int i = 0; i < due.length; i++) {
-            Check.same(what + " where(" + block + ", " + i + ")", x.where(block, i), due[i]);
-        }
-    }
-
+public final class PromiseTest extends Machines {
     private static void promise1NewObject() {
         StickPairs x = new StickPairs();
         counts("new", x, 0, 0, 0, 0, 0, 0, 0, 0, 0, 0, 0, 0);
@@ -630,14 +580,6 @@ public final class PromiseTest {
         Check.look("where", m, () -> m.where(3, 5), 2);
     }
 
-    private static void liesAll(String what, StickPairs x, int slot, int... due) {
-        for (int number = 0; number < 12; number++) {
-            int each = number;
-            Check.look(what + " lies(" + slot + ", " + number + ")", x, () -> x.lies(slot, each),
-                    number < due.length ? due[number] : NONE);
-        }
-    }
-
     private static void promise20Lies() {
         StickPairs x = started(0, 2, 1, 1, 3, 2, 1);
         liesAll("wide", x, 0, 0);
@@ -812,10 +754,6 @@ public final class PromiseTest {
         Check.look("bestChange asks no map", z, z::bestChange, NONE);
     }
 
-    private static void share(String what, double got, double due) {
-        Check.same(what, Double.doubleToLongBits(got), Double.doubleToLongBits(due));
-    }
-
     private static void promise27WideShare() {
         share("wideShare of nothing", new StickPairs().wideShare(), 0.0);
         share("wideShare before a start", with(1, 1, 4, 0, 4).wideShare(), 0.0);
@@ -828,10 +766,6 @@ public final class PromiseTest {
         share("wideShare, all", started(0, 1, 1, 4, 0, 0, 4).wideShare(), 1.0);
         share("wideShare, narrow", started(1, 1, 1, 4, 0, 0, 4).wideShare(), 0.0);
         share("wideShare, mirrored", started(2, 1, 1, 4, 0, 0, 4).wideShare(), 0.0);
-    }
-
-    private static void mean(String what, float got, float due) {
-        Check.same(what, Float.floatToIntBits(got), Float.floatToIntBits(due));
     }
 
     private static void promise28MeanTicks() {
