@@ -717,7 +717,7 @@ public final class StickPairs {
         }
 
         private int channelOf(int block) {
-            if (isMirrored()) {
+            if (kind == MIRRORED) {
                 return 0;
             }
             if (block < wide) {
@@ -737,7 +737,7 @@ public final class StickPairs {
             if (kind == WIDE) {
                 return block - lesserRoom;
             }
-            return isMirrored() || block < room0 ? block : block - room0;
+            return kind == MIRRORED || block < room0 ? block : block - room0;
         }
 
         private int slotAt(int channel, int index) {

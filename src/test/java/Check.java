@@ -70,16 +70,17 @@ final class Check {
         same(what + ": the state behind it", x.digest(), before);
     }
 
-    /** The call answers so, saves one state, and undo restores that; then the call is made again. */
+    /**
+     * The call answers so, saves one state, and undo restores that; then the call is made again. There must be
+     * room for one more saved state, or the digest behind undo could not be the one before.
+     */
     static void undoable(String what, StickPairs x, Call call, long due) {
         int states = x.count(11);
+        same(what + ": room for a saved state", states < 6 ? 1 : 0, 1);
         long before = x.digest();
         same(what, call.answer(), due);
         long behind = x.digest();
-        same(what + ": saved states", x.count(11), Math.min(6, states + 1));
-        if (states >= 6) {
-            return;
-        }
+        same(what + ": saved states", x.count(11), states + 1);
         same(what + ": undo", x.undo(), states);
         same(what + ": the state behind undo", x.digest(), before);
         same(what + " again", call.answer(), due);

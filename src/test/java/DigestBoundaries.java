@@ -8,6 +8,7 @@ final class DigestBoundaries extends Machines {
 
     static void all() {
         digest();
+        digestReturns();
         looksChangeNothing();
     }
 
@@ -65,7 +66,6 @@ final class DigestBoundaries extends Machines {
                 + "0 to 2 with 0 and 1 each; bestChange; the bits of wideShare (as Double.doubleToLongBits); the "
                 + "bits of meanTicks (as Float.floatToIntBits); 1 if there is a snapshot, otherwise 0; the length "
                 + "of the buffer and each of its character codes.");
-        Sentences.of(29, "Returns the hash.");
         StickPairs x = new StickPairs();
         Check.look("a new object", x, x::digest, due(x, new int[0], false, ""));
         for (int length = 1; length <= 60; length++) {
@@ -126,6 +126,24 @@ final class DigestBoundaries extends Machines {
         }
     }
 
+    private static void digestReturns() {
+        Sentences.of(29, "Returns the hash.");
+        StickPairs x = new StickPairs();
+        long empty = 3691;
+        for (int v : new int[] {0, 0, 0, 0, 0, 0, 0, 0, 0, 0, 0, 0, 0, 1}) {
+            empty = 31 * empty + v;
+        }
+        for (int place = 0; place < 4 * (8 + 12); place++) {
+            empty = 31 * empty + NONE;
+        }
+        for (int v : new int[] {1, NONE, NONE, NONE, 0, 0, 0, 0, 0, 0, NONE, 0, 0, 0, 0}) {
+            empty = 31 * empty + v;
+        }
+        Check.look("a new object, by its numbers alone", x, x::digest, empty);
+        Check.same("the same again", x.digest(), empty);
+        Check.same("of another new object", new StickPairs().digest(), empty);
+    }
+
     private static void looksChangeNothing() {
         Sentences.terms(18, "Ahead of the calls `slot`, `where`, `lies`, `count`, `setting`, `why` the interface "
                 + "says: ---- looks; nothing is changed.");
@@ -150,10 +168,5 @@ final class DigestBoundaries extends Machines {
         x.digest();
         x.firstError();
         TextBoundaries.likeCrowded("behind all of these", x);
-        Sentences.terms(2, "Ahead of the calls `plug`, `pull`, `fail` the interface says: ---- sticks.");
-        Sentences.terms(5, "Ahead of the calls `start`, `stop`, `write`, `read`, `rest`, `set` the interface says: "
-                + "---- the machine.");
-        Sentences.terms(11, "Ahead of the calls `append`, `clearBuffer`, `firstError`, `run`, `keep`, `goBack`, "
-                + "`undo` the interface says: ---- texts, the snapshot.");
     }
 }

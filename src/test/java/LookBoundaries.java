@@ -18,28 +18,35 @@ final class LookBoundaries extends Machines {
         whereNumbers();
         whereReturns();
         lies();
-        liesPlaces();
+        liesSlot();
+        liesNumber();
         liesReturns();
         liesRefused();
         count();
+        countReturns();
         countRefused();
         countNumbers();
         setting();
+        settingReturns();
         settingSetting();
         settingRefused();
         why();
+        whyReturns();
         sweep();
         sweepMap();
         sweepReturns();
         sweepRefused();
         ifStarted();
-        ifStartedNumbers();
+        ifStartedMap();
+        ifStartedWhat();
         ifStartedReturns();
         ifStartedRefused();
         bestChange();
         bestChangeReturns();
         wideShare();
+        wideShareReturns();
         meanTicks();
+        meanTicksReturns();
         DigestBoundaries.all();
     }
 
@@ -229,15 +236,22 @@ final class LookBoundaries extends Machines {
         }
     }
 
-    private static void liesPlaces() {
+    private static void liesSlot() {
         Sentences.of(20, "- `slot`: 0 to 3");
+        StickPairs x = started(1, 1, 1, 1, 2, 3, 4);
+        liesAll("the first", x, 0, 0);
+        liesAll("the second", x, 1, 1, 2);
+        liesAll("the third", x, 2, 3, 4, 5);
+        liesAll("the last", x, 3, 6, 7, 8, 9);
+    }
+
+    private static void liesNumber() {
         Sentences.of(20, "- `number`: its number in the stick, 0 to 11");
         StickPairs all = started(0, 1, 1, 12, 12, 12, 12);
-        int[][] corners = {{0, 0, 0}, {0, 11, 22}, {1, 0, 24}, {1, 11, 46}, {2, 0, 1}, {2, 11, 23}, {3, 0, 25},
+        int[][] ends = {{0, 0, 0}, {0, 11, 22}, {1, 0, 24}, {1, 11, 46}, {2, 0, 1}, {2, 11, 23}, {3, 0, 25},
             {3, 11, 47}};
-        for (int[] corner : corners) {
-            Check.look("lies(" + corner[0] + ", " + corner[1] + ")", all, () -> all.lies(corner[0], corner[1]),
-                    corner[2]);
+        for (int[] end : ends) {
+            Check.look("lies(" + end[0] + ", " + end[1] + ")", all, () -> all.lies(end[0], end[1]), end[2]);
         }
     }
 
@@ -295,10 +309,18 @@ final class LookBoundaries extends Machines {
 
     private static void count() {
         Sentences.of(21, "Returns a number.");
+        StickPairs x = started(1, 1, 1, 12, 12, 12, 12);
+        fill(x, 99);
+        int[] due = {4, 0, 48, 0, 0, 0, 0, 0, 0, 1, 48 * 99, 6};
+        for (int what = 0; what <= 11; what++) {
+            int each = what;
+            Check.look("count(" + what + ")", x, () -> x.count(each), due[what]);
+        }
+    }
+
+    private static void countReturns() {
         Sentences.of(21, "Returns the number.");
         StickPairs x = started(0, 1, 3, 12, 12, 12, 12);
-        Check.same("sticks at most", x.count(0), 4);
-        Check.same("blocks at most", x.count(2), 48);
         Check.same("wide blocks at most", x.count(3), 48);
         for (int slot = 0; slot <= 3; slot++) {
             x.fail(slot);
@@ -363,10 +385,22 @@ final class LookBoundaries extends Machines {
 
     private static void setting() {
         Sentences.of(22, "Returns a setting.");
-        Sentences.of(22, "Returns its value.");
         StickPairs x = new StickPairs();
         Check.look("the map at first", x, () -> x.setting(0), 0);
         Check.look("pairs at first", x, () -> x.setting(1), 1);
+    }
+
+    private static void settingReturns() {
+        Sentences.of(22, "Returns its value.");
+        StickPairs x = new StickPairs();
+        x.set(0, 2);
+        x.set(1, 0);
+        Check.look("the map", x, () -> x.setting(0), 2);
+        Check.look("pairs", x, () -> x.setting(1), 0);
+        x.undo();
+        x.undo();
+        Check.look("the map, undone", x, () -> x.setting(0), 0);
+        Check.look("pairs, undone", x, () -> x.setting(1), 1);
     }
 
     private static void settingSetting() {
@@ -392,28 +426,43 @@ final class LookBoundaries extends Machines {
 
     private static void why() {
         Sentences.of(23, "Tells why the machine does not start.");
-        Sentences.of(23, "Returns 0 if it does, otherwise 1 or 2.");
-        StickPairs x = new StickPairs();
-        Check.look("without a stick", x, x::why, 1);
-        x.plug(2, 1, 1, 1);
-        for (int map = 0; map <= 2; map++) {
-            x.set(0, map);
-            Check.look("one stick, map " + map, x, x::why, map == 2 ? 2 : 0);
-        }
-        x.plug(3, 12, 1, 1);
+        StickPairs x = with(1, 1, 0, 0, 1, 12);
+        x.start();
+        x.set(0, 2);
         Check.look("one channel", x, x::why, 2);
+        Check.noState("start", x, x::start);
         x.plug(1, 1, 1, 1);
         Check.look("both channels", x, x::why, 0);
-        x.start();
+        Check.same("start", x.start(), 1);
         x.pull(1);
         Check.look("it runs, though it does not start anew", x, x::why, 2);
         Check.same("blocks", x.count(2), 1);
         x.fail(2);
         x.fail(3);
         Check.look("failed ones alone", x, x::why, 1);
+        Check.noState("start", x, x::start);
         x.pull(2);
         x.pull(3);
         Check.look("all pulled out", x, x::why, 1);
+    }
+
+    private static void whyReturns() {
+        Sentences.of(23, "Returns 0 if it does, otherwise 1 or 2.");
+        StickPairs x = new StickPairs();
+        for (int map = 0; map <= 2; map++) {
+            x.set(0, map);
+            Check.look("no stick, map " + map, x, x::why, 1);
+        }
+        x.plug(2, 1, 1, 1);
+        for (int map = 0; map <= 2; map++) {
+            x.set(0, map);
+            Check.look("one stick, map " + map, x, x::why, map == 2 ? 2 : 0);
+        }
+        x.plug(1, 1, 1, 1);
+        for (int map = 0; map <= 2; map++) {
+            x.set(0, map);
+            Check.look("one stick in each channel, map " + map, x, x::why, 0);
+        }
     }
 
     private static StickPairs readAllOf(StickPairs x) {
@@ -436,6 +485,10 @@ final class LookBoundaries extends Machines {
         Check.look("ranks that are not free do not matter", x, () -> x.sweep(1), 21);
         x.fail(1);
         Check.look("without a failed one", x, () -> x.sweep(0), 5 + 4);
+        StickPairs three = unlikeThree();
+        Check.look("unlike sticks, wide", three, () -> three.sweep(0), 14);
+        Check.look("unlike sticks, narrow", three, () -> three.sweep(1), 19);
+        Check.look("unlike sticks, mirrored", three, () -> three.sweep(2), 5);
         StickPairs all = with(2, 9, 12, 12, 12, 12);
         for (int map = 0; map <= 2; map++) {
             all.set(0, map);
@@ -496,16 +549,23 @@ final class LookBoundaries extends Machines {
         Check.same("the map stays", x.count(2), 48);
     }
 
-    private static void ifStartedNumbers() {
+    private static void ifStartedMap() {
         Sentences.of(25, "- `map`: 0 to 2");
+        StickPairs x = with(1, 1, 5, 3, 4);
+        Check.look("wide", x, () -> x.ifStarted(0, 0), 12);
+        Check.look("narrow", x, () -> x.ifStarted(1, 0), 12);
+        Check.look("mirrored", x, () -> x.ifStarted(2, 0), 4);
+        x.set(0, 2);
+        Check.look("whatever the setting is", x, () -> x.ifStarted(0, 0), 12);
+    }
+
+    private static void ifStartedWhat() {
         Sentences.of(25, "- `what`: 0: blocks; 1: wide blocks");
         StickPairs x = with(1, 1, 5, 3, 4);
-        int[][] due = {{12, 8}, {12, 0}, {4, 0}};
-        for (int map = 0; map <= 2; map++) {
-            int each = map;
-            Check.look("blocks, map " + map, x, () -> x.ifStarted(each, 0), due[map][0]);
-            Check.look("wide blocks, map " + map, x, () -> x.ifStarted(each, 1), due[map][1]);
-        }
+        Check.look("wide, wide blocks", x, () -> x.ifStarted(0, 1), 8);
+        Check.look("narrow, wide blocks", x, () -> x.ifStarted(1, 1), 0);
+        Check.look("mirrored, wide blocks", x, () -> x.ifStarted(2, 1), 0);
+        Check.look("blocks", x, () -> x.ifStarted(0, 0), 12);
     }
 
     private static void ifStartedReturns() {
@@ -583,13 +643,16 @@ final class LookBoundaries extends Machines {
 
     private static void wideShare() {
         Sentences.of(27, "Returns how much is wide.");
-        Sentences.of(27, "Returns count(3) as a double, divided by count(2); 0.0 without blocks.");
-        share("a new object", new StickPairs().wideShare(), 0.0);
-        share("before a start", with(1, 1, 4, 0, 4).wideShare(), 0.0);
         share("an m of 0", started(0, 1, 1, 4).wideShare(), 0.0);
         share("all", started(0, 1, 1, 12, 12, 12, 12).wideShare(), 1.0);
         share("narrow", started(1, 1, 1, 12, 12, 12, 12).wideShare(), 0.0);
         share("mirrored", started(2, 1, 1, 12, 12, 12, 12).wideShare(), 0.0);
+    }
+
+    private static void wideShareReturns() {
+        Sentences.of(27, "Returns count(3) as a double, divided by count(2); 0.0 without blocks.");
+        share("a new object", new StickPairs().wideShare(), 0.0);
+        share("before a start", with(1, 1, 4, 0, 4).wideShare(), 0.0);
         for (int room = 1; room <= 12; room++) {
             StickPairs x = started(0, 1, 1, room, 12, 0, 1);
             share("2 of " + (room + 13), x.wideShare(), 2.0 / (room + 13));
@@ -605,6 +668,15 @@ final class LookBoundaries extends Machines {
 
     private static void meanTicks() {
         Sentences.of(28, "Returns how long readings take.");
+        StickPairs x = started(0, 1, 1, 12, 12, 12, 12);
+        run(x, "0-47");
+        mean("pairs without a wait", x.meanTicks(), 0.5f);
+        StickPairs slow = started(1, 1, 9, 12);
+        run(slow, "0-11");
+        mean("waits of 8", slow.meanTicks(), 100.0f / 12.0f);
+    }
+
+    private static void meanTicksReturns() {
         Sentences.of(28, "Returns the tick as a float, divided by count(5); 0.0f if none was read.");
         mean("a new object", new StickPairs().meanTicks(), 0.0f);
         StickPairs x = started(0, 1, 9, 2, 0, 2);
@@ -624,7 +696,6 @@ final class LookBoundaries extends Machines {
         mean("none was read, by undo", x.meanTicks(), 0.0f);
         StickPairs below = started(0, 1, 1, 12, 12, 12, 12);
         run(below, "0-47");
-        mean("less than 1", below.meanTicks(), 0.5f);
         below.rest(1);
         mean("25 for 48", below.meanTicks(), 25.0f / 48.0f);
     }

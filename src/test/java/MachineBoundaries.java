@@ -33,6 +33,7 @@ final class MachineBoundaries extends Machines {
         set();
         setSetting();
         setValue();
+        setReturns();
         setNoSetting();
         setNoSuchValue();
     }
@@ -216,6 +217,13 @@ final class MachineBoundaries extends Machines {
         same.rest(2);
         run(same, "0-1");
         counts("both are free at the very tick", same, 2, 0, 4, 4, 7, 6, 3, 2);
+        StickPairs three = unlikeThree();
+        three.start();
+        run(three, "0-7");
+        counts("two sticks in one channel", three, 3, 0, 8, 8, 14, 8, 4, 10);
+        numbers("all pairs", three, 0, 4, 2, 3, 0, 1, 10, 16, 4);
+        numbers("the first pair", three, 2, 1, 1, 1, 0, 1, 1, NONE, 1);
+        numbers("the other pairs", three, 3, 3, 1, 6, 0, 1, 19, NONE, 3);
     }
 
     private static void settings() {
@@ -340,6 +348,7 @@ final class MachineBoundaries extends Machines {
         StickPairs x = started(0, 2, 5, 1, 0, 1);
         x.write(1, 99);
         Check.undoable("read", x, () -> x.read(1), 99);
+        leaveRoom(x);
         Check.undoable("read again, with a wait", x, () -> x.read(1), 99);
         counts("read", x, 2, 0, 2, 2, 6, 2, 0, 4);
     }
@@ -436,7 +445,10 @@ final class MachineBoundaries extends Machines {
         Sentences.of(10, "Changes a setting; the map stays. Undoable.");
         StickPairs x = started(0, 1, 1, 2, 0, 1);
         Check.undoable("set", x, () -> x.set(0, 2), 0);
+        leaveRoom(x);
         Check.undoable("set the same", x, () -> x.set(0, 2), 2);
+        Check.undoable("set no pairs", x, () -> x.set(1, 0), 1);
+        Check.undoable("set pairs", x, () -> x.set(1, 1), 0);
         counts("the map stays", x, 2, 0, 3, 2);
         place("the map stays", x, 2, 0, 1, 0, 0);
     }
@@ -454,16 +466,27 @@ final class MachineBoundaries extends Machines {
 
     private static void setValue() {
         Sentences.of(10, "- `value`: the new value");
+        StickPairs x = new StickPairs();
+        for (int map = 0; map <= 2; map++) {
+            x.set(0, map);
+            Check.same("the map", x.setting(0), map);
+        }
+        for (int pairs = 0; pairs <= 1; pairs++) {
+            x.set(1, pairs);
+            Check.same("pairs", x.setting(1), pairs);
+        }
+    }
+
+    private static void setReturns() {
         Sentences.of(10, "Returns the previous value.");
         StickPairs x = new StickPairs();
         Check.same("the map, from the first value", x.set(0, 1), 0);
         Check.same("the map, to the greatest", x.set(0, 2), 1);
         Check.same("the map, to the least", x.set(0, 0), 2);
-        Check.same("it is set", x.setting(0), 0);
+        Check.same("the map, the same", x.set(0, 0), 0);
         Check.same("pairs, from the first value", x.set(1, 1), 1);
         Check.same("pairs, to the least", x.set(1, 0), 1);
         Check.same("pairs, to the greatest", x.set(1, 1), 0);
-        Check.same("it is set", x.setting(1), 1);
     }
 
     private static void setNoSetting() {

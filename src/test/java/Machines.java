@@ -20,6 +20,24 @@ abstract class Machines {
         return x;
     }
 
+    /** The same state with one saved state alone, so that there is room for more; it is the snapshot, too. */
+    static void leaveRoom(StickPairs x) {
+        x.keep();
+        for (int left = x.count(11); left > 0; left--) {
+            x.undo();
+        }
+        x.goBack();
+    }
+
+    /** Rooms of 4 and 4; all three sticks have other ranks or delays. */
+    static StickPairs unlikeThree() {
+        StickPairs x = new StickPairs();
+        x.plug(0, 4, 2, 3);
+        x.plug(2, 1, 1, 1);
+        x.plug(3, 3, 1, 6);
+        return x;
+    }
+
     /** Writes the value to every block. */
     static void fill(StickPairs x, int value) {
         for (int block = 0; block < x.count(2); block++) {

@@ -66,6 +66,7 @@ public final class PromiseTest extends Machines {
         Check.noIndex("pull below", x, () -> x.pull(-1));
         Check.noIndex("pull above", x, () -> x.pull(4));
         x.plug(0, 5, 1, 1);
+        leaveRoom(x);
         Check.undoable("pull one in no map", x, () -> x.pull(0), 0);
         x.fail(2);
         Check.undoable("pull a failed one", x, () -> x.pull(2), 0);
@@ -95,6 +96,7 @@ public final class PromiseTest extends Machines {
         Check.noIndex("fail below", x, () -> x.fail(-1));
         Check.noIndex("fail above", x, () -> x.fail(4));
         x.plug(1, 5, 1, 1);
+        leaveRoom(x);
         Check.undoable("fail one in no map", x, () -> x.fail(1), 0);
         Check.same("two failed", x.count(1), 2);
         Check.same("fail before a start", with(1, 1, 3).fail(0), 0);
@@ -259,6 +261,7 @@ public final class PromiseTest extends Machines {
         Check.same("it is set", x.setting(0), 2);
         Check.same("the map stays", x.count(3), 4);
         Check.undoable("set the same", x, () -> x.set(0, 2), 2);
+        leaveRoom(x);
         Check.undoable("set no pairs", x, () -> x.set(1, 0), 1);
         Check.same("it is set", x.setting(1), 0);
         Check.same("set back", x.set(1, 1), 0);
@@ -473,7 +476,7 @@ public final class PromiseTest extends Machines {
         x.write(0, 5);
         x.read(0);
         x.set(1, 0);
-        Check.undoable("goBack", x, x::goBack, 0);
+        Check.same("goBack", x.goBack(), 0);
         counts("as it was", x, 2, 0, 0, 0, 0, 0, 0, 0, 0, 0, 0, 6);
         Check.same("setting as it was", x.setting(1), 1);
         Check.same("it stays", x.goBack(), 0);

@@ -13,7 +13,12 @@ final class Sentences {
     private static final String DOCUMENT = "../shared/DOC.md";
     private static final String PROMISE = "\n## Promise ";
     private static final String CODE_AHEAD = "^`[^`]*`: ";
-    private static final String[] NO_SENTENCES = {"Slots, sticks", "Starting, maps", "Writing, reading, ticks"};
+    /** Headings, and lines that tell no more than where in the interface a call stands. */
+    private static final String[] NO_SENTENCES = {"Slots, sticks", "Starting, maps", "Writing, reading, ticks",
+        "Ahead of the calls `plug`, `pull`, `fail` the interface says: ---- sticks.",
+        "Ahead of the calls `start`, `stop`, `write`, `read`, `rest`, `set` the interface says: ---- the machine.",
+        "Ahead of the calls `append`, `clearBuffer`, `firstError`, `run`, `keep`, `goBack`, `undo` the interface says: "
+            + "---- texts, the snapshot."};
 
     /** The text ahead of the promises, then each promise's; and what of it no test has named yet. */
     private static final List<String> TEXTS = read();
@@ -51,8 +56,8 @@ final class Sentences {
     }
 
     private static boolean isSentence(String line) {
-        for (String heading : NO_SENTENCES) {
-            if (line.equals(heading)) {
+        for (String each : NO_SENTENCES) {
+            if (line.equals(each)) {
                 return false;
             }
         }

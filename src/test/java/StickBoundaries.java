@@ -459,6 +459,7 @@ final class StickBoundaries extends Machines {
         StickPairs x = started(0, 2, 3, 1, 12);
         x.read(12);
         Check.undoable("pull the greatest", x, () -> x.pull(1), 12);
+        leaveRoom(x);
         Check.undoable("pull the least, and last", x, () -> x.pull(0), 1);
         counts("pulled", x, 0, 0, 13, 0, 1, 1, 0, 0, 13, 1, 0);
     }
@@ -529,6 +530,7 @@ final class StickBoundaries extends Machines {
         StickPairs x = started(0, 2, 3, 1, 12);
         x.read(12);
         Check.undoable("fail the greatest", x, () -> x.fail(1), 12);
+        leaveRoom(x);
         Check.undoable("fail the least, and last", x, () -> x.fail(0), 1);
         counts("failed", x, 2, 2, 13, 0, 1, 1, 0, 0, 13, 1, 0);
         numbers("failed", x, 1, 12, 2, 3, 1, 1, 0, 3, 1);
@@ -592,6 +594,7 @@ final class StickBoundaries extends Machines {
         x.fail(2);
         x.plug(1, 5, 1, 2);
         Check.same("the new one is free from 0 on", x.slot(1, 5), 0);
+        leaveRoom(x);
         Check.undoable("start anew", x, x::start, 12);
         numbers("one that was waited for", x, 0, 4, 2, 9, 0, 1, 9, 9, 1);
         numbers("a failed one", x, 2, 2, 2, 9, 1, 0, 9, 9, 1);
@@ -642,6 +645,7 @@ final class StickBoundaries extends Machines {
         StickPairs x = started(2, 2, 9, 3, 0, 3);
         x.write(0, 4);
         x.read(0);
+        leaveRoom(x);
         Check.undoable("stop", x, x::stop, 3);
         counts("stopped", x, 2, 0, 0, 0, 1, 1, 0, 0, 0, 1, 0);
         numbers("in no map", x, 0, 3, 2, 9, 0, 0, 9, 0, 1);

@@ -9,6 +9,7 @@ final class TextBoundaries extends Machines {
         appendReturns();
         appendNoCode();
         appendToFull();
+        at60Characters();
         clearBuffer();
         clearBufferReturns();
         syntaxErrors();
@@ -73,18 +74,33 @@ final class TextBoundaries extends Machines {
         }
     }
 
+    private static StickPairs fullBuffer() {
+        StickPairs x = new StickPairs();
+        type(x, "x".repeat(60));
+        return x;
+    }
+
     private static void appendToFull() {
         Sentences.of(11, "Throws `IllegalStateException` if the buffer has 60 characters");
-        Sentences.terms(11, "The buffer has at most 60 characters.");
-        StickPairs full = new StickPairs();
-        for (int length = 1; length <= 59; length++) {
-            full.append('x');
+        StickPairs x = fullBuffer();
+        for (int code = 33; code <= 126; code++) {
+            int each = code;
+            Check.noState("append(" + code + ")", x, () -> x.append(each));
         }
-        Check.same("the 60th", full.append('x'), 60);
-        Check.noState("the 61st", full, () -> full.append('x'));
-        Check.noState("the 61st again", full, () -> full.append('0'));
-        Check.same("60 stay", full.clearBuffer(), 60);
-        Check.same("behind clearBuffer", full.append('x'), 1);
+        x.clearBuffer();
+        Check.same("behind clearBuffer", x.append('x'), 1);
+    }
+
+    private static void at60Characters() {
+        Sentences.terms(11, "The buffer has at most 60 characters.");
+        StickPairs x = new StickPairs();
+        for (int length = 1; length <= 59; length++) {
+            x.append('0' + length % 10);
+        }
+        Check.same("the 60th", x.append('x'), 60);
+        Check.noState("the 61st", x, () -> x.append('x'));
+        Check.noState("the 61st again", x, () -> x.append('0'));
+        Check.same("60 stay", x.clearBuffer(), 60);
     }
 
     private static void clearBuffer() {
