@@ -10,6 +10,7 @@ final class DigestBoundaries extends Machines {
         digest();
         digestReturns();
         looksChangeNothing();
+        trialsChangeNothing();
     }
 
     /** The digest by the face's own answers; the values, the snapshot and the buffer are told beside. */
@@ -145,10 +146,8 @@ final class DigestBoundaries extends Machines {
     }
 
     private static void looksChangeNothing() {
-        Sentences.terms(18, "Ahead of the calls `slot`, `where`, `lies`, `count`, `setting`, `why` the interface "
-                + "says: ---- looks; nothing is changed.");
-        Sentences.terms(24, "Ahead of the calls `sweep`, `ifStarted`, `bestChange`, `wideShare`, `meanTicks`, "
-                + "`digest` the interface says: ---- what would be; nothing is changed.");
+        Sentences.terms(18, "Ahead of the calls `slot`, `where`, `lies`, `count`, `setting`, `why` the interface says: "
+                + "---- looks; nothing is changed.");
         StickPairs x = TextBoundaries.crowded();
         for (int what = 0; what <= 11; what++) {
             for (int slot = 0; slot <= 3; slot++) {
@@ -158,15 +157,24 @@ final class DigestBoundaries extends Machines {
             }
             x.count(what);
             x.setting(what % 2);
-            x.sweep(what % 3);
-            x.ifStarted(what % 3, what % 2);
         }
         x.why();
+        TextBoundaries.likeCrowded("behind all of these", x);
+    }
+
+    private static void trialsChangeNothing() {
+        Sentences.terms(24, "Ahead of the calls `sweep`, `ifStarted`, `bestChange`, `wideShare`, `meanTicks`, `digest` "
+                + "the interface says: ---- what would be; nothing is changed.");
+        StickPairs x = TextBoundaries.crowded();
+        for (int map = 0; map <= 2; map++) {
+            x.sweep(map);
+            x.ifStarted(map, 0);
+            x.ifStarted(map, 1);
+        }
         x.bestChange();
         x.wideShare();
         x.meanTicks();
         x.digest();
-        x.firstError();
         TextBoundaries.likeCrowded("behind all of these", x);
     }
 }
