@@ -7,6 +7,7 @@ public final class BoundaryTest {
     }
 
     public static void main(String[] args) {
+        HeadBoundaries.all();
         StickBoundaries.all();
         MachineBoundaries.all();
         TextBoundaries.all();

@@ -4,23 +4,27 @@ import java.nio.file.Files;
 import java.nio.file.Path;
 import java.util.ArrayList;
 import java.util.List;
+import java.util.regex.Pattern;
 
 /**
  * The sentences of the document: a test names the one that it holds the class to, with its promise, and it
- * must stand there so; at the end each sentence of the terms and of the promises must have been named.
+ * must stand there so; at the end each sentence, from the first line to the last, must have been named.
  */
 final class Sentences {
     private static final String DOCUMENT = "../shared/DOC.md";
-    private static final String PROMISE = "\n## Promise ";
-    private static final String CODE_AHEAD = "^`[^`]*`: ";
+    private static final String PARTS = "\n## Promise |\n## Not promised";
+    private static final int PROMISES = 29;
+    private static final int NOT_PROMISED = PROMISES + 1;
+    private static final String FENCE = "```java";
+    private static final Pattern CALL = Pattern.compile("public .*\\(.*;");
     /** Headings, and lines that tell no more than where in the interface a call stands. */
-    private static final String[] NO_SENTENCES = {"Slots, sticks", "Starting, maps", "Writing, reading, ticks",
+    private static final String[] NO_SENTENCES = {FENCE, "Slots, sticks", "Starting, maps", "Writing, reading, ticks",
         "Ahead of the calls `plug`, `pull`, `fail` the interface says: ---- sticks.",
         "Ahead of the calls `start`, `stop`, `write`, `read`, `rest`, `set` the interface says: ---- the machine.",
         "Ahead of the calls `append`, `clearBuffer`, `firstError`, `run`, `keep`, `goBack`, `undo` the interface says: "
             + "---- texts, the snapshot."};
 
-    /** The text ahead of the promises, then each promise's; and what of it no test has named yet. */
+    /** The text ahead of the promises, each promise's, and the one behind them; and what no test has named yet. */
     private static final List<String> TEXTS = read();
     private static final List<String> UNNAMED = new ArrayList<>(TEXTS);
 
@@ -28,31 +32,43 @@ final class Sentences {
     }
 
     private static List<String> read() {
-        String document;
         try {
-            document = Files.readString(Path.of(DOCUMENT), StandardCharsets.UTF_8);
+            return List.of(Files.readString(Path.of(DOCUMENT), StandardCharsets.UTF_8).split(PARTS));
         } catch (IOException e) {
             throw new IllegalStateException("no document at " + DOCUMENT, e);
         }
-        document = document.substring(0, document.indexOf("\n## Not promised"));
-        return List.of(document.split(PROMISE));
     }
 
-    private static void begin(int promise, int section, String sentence) {
-        String name = "promise " + promise + ", \"" + sentence + "\"";
-        Check.about(name);
+    /** The calls as the document's face declares them, a line each. */
+    static List<String> face() {
+        List<String> lines = new ArrayList<>();
+        for (String line : TEXTS.get(0).split("\n")) {
+            if (CALL.matcher(line.strip()).matches()) {
+                lines.add(line.strip());
+            }
+        }
+        return lines;
+    }
+
+    private static void begin(String place, int section, String sentence) {
+        Check.about(place + ", \"" + sentence + "\"");
         Check.same("the sentence stands in the document", TEXTS.get(section).contains(sentence) ? 1 : 0, 1);
         UNNAMED.set(section, UNNAMED.get(section).replace(sentence, " "));
     }
 
     /** What follows tests this sentence of the promise. */
     static void of(int promise, String sentence) {
-        begin(promise, promise, sentence);
+        begin("promise " + promise, promise, sentence);
     }
 
     /** What follows tests this sentence, which stands ahead of the promises, by this promise. */
     static void terms(int promise, String sentence) {
-        begin(promise, 0, sentence);
+        begin("promise " + promise, 0, sentence);
+    }
+
+    /** What follows tests this sentence, which stands behind the promises. */
+    static void notPromised(String sentence) {
+        begin("not promised", NOT_PROMISED, sentence);
     }
 
     private static boolean isSentence(String line) {
@@ -64,16 +80,16 @@ final class Sentences {
         return !line.startsWith("#") && line.chars().anyMatch(Character::isLetter);
     }
 
-    /** Each sentence of the terms and of the promises has been named. */
+    /** Each sentence of the document has been named. */
     static void allAreNamed() {
         Check.about("all sentences");
-        Check.same("promises of the document", TEXTS.size() - 1, 29);
+        Check.same("parts of the document", TEXTS.size(), PROMISES + 2);
         for (int section = 0; section < UNNAMED.size(); section++) {
             String text = UNNAMED.get(section);
-            // The heading of a promise goes with its first line, as what is ahead of the terms does.
-            text = text.substring(section == 0 ? text.indexOf("\n## Terms") : text.indexOf('\n'));
+            // A promise's name, which is left of its heading, tells nothing that its first line does not.
+            text = text.substring(section == 0 ? 0 : text.indexOf('\n'));
             for (String line : text.split("\n")) {
-                String bare = line.replaceFirst(CODE_AHEAD, "").strip();
+                String bare = line.strip();
                 Check.same("section " + section + ", unnamed \"" + bare + "\"", isSentence(bare) ? 1 : 0, 0);
             }
         }
